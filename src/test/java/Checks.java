@@ -39,7 +39,8 @@ final class Checks {
         StackTraceElement[] trace = new Throwable().getStackTrace();
         int line = 0;
         for (StackTraceElement at : trace) {
-            if (line == 0 && !at.getClassName().equals("Checks")) {
+            boolean isHelper = at.getClassName().equals("Checks") || at.getClassName().equals("Edges");
+            if (line == 0 && !isHelper) {
                 line = at.getLineNumber();
             }
         }
