@@ -962,6 +962,19 @@ public final class AnswersTest {
         }
         empty = (empty * 31 - 1) * 31 * 31 + 1;
         C.due(empty, new Ditchright().digest());
+        // The digest is asked first, with nothing known from other questions.
+        Ditchright x = many();
+        long digest = x.digest();
+        C.due(digest, x.digest());
+        C.due(summed(many()), digest);
+        C.due(8, x.house(6));
+        Ditchright y = more();
+        digest = y.digest();
+        C.due("5+ 4+", y.calls(0));
+        C.due(summed(more()), digest);
+    }
+
+    private static Ditchright many() {
         Ditchright x = written("f 0 3;g");
         x.reach(-1, 20, 1, 1);
         x.reach(0, 9, 2, 1);
@@ -982,11 +995,11 @@ public final class AnswersTest {
         x.member(2, 5);
         x.sell(0, 1);
         x.knock();
-        // The digest is asked first, with nothing known from other questions.
-        long digest = x.digest();
-        C.due(summed(x), digest);
-        C.due(digest, x.digest());
-        C.due(8, x.house(6));
+        return x;
+    }
+
+    private static Ditchright more() {
+        Ditchright x = many();
         x.run(1);
         x.right(1, 9, 15);
         x.spring(1, 60);
@@ -995,9 +1008,7 @@ public final class AnswersTest {
         x.right(2, 39, 15);
         x.born(1, 8);
         x.born(2, 9);
-        digest = x.digest();
-        C.due(summed(x), digest);
-        C.due("5+ 4+", x.calls(0));
+        return x;
     }
 
     private static long summed(Ditchright x) {

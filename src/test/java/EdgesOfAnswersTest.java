@@ -14,6 +14,9 @@ public final class EdgesOfAnswersTest {
         rightsBehindUndo();
         whyJustShort();
         whyOfNoWant();
+        whyTheYoungestThere();
+        whyTheYoungestFish();
+        callsFromTheYoungest();
         callsJustLess();
         harmsNumbers();
         harmsFirstNamed();
@@ -122,6 +125,107 @@ public final class EdgesOfAnswersTest {
         E.due("", Rivers.GONE.made().calls(0));
         E.due(0, Rivers.GONE.made().share(0, true));
         E.due(0, Rivers.GONE.made().share(0, false));
+    }
+
+    /** At another GATE it is the youngest of the older ones that has something, be it one drop. */
+    private static void whyTheYoungestThere() {
+        Ditchright x = new Ditchright();
+        x.reach(-1, 7, 0, 0);
+        x.gate(0, 5, 40, 0);
+        x.gate(0, 1, 40, 0);
+        x.right(0, 6, 15);
+        x.right(0, 1, 15);
+        x.right(0, 4, 15);
+        x.right(1, 2, 15);
+        x.right(0, 4, 15);
+        // 0 and 1 have all; 2 is as old, but has nothing, and 4 is younger.
+        E.due("3<1", x.why(3));
+        x.wish(1, 0);
+        x.spring(0, 6);
+        E.due("3<0", x.why(3));
+        x.spring(0, 7);
+        E.due(1, x.share(2, true));
+        E.due("3<2<D", x.why(3));
+        x.spring(0, 13);
+        // 2 has its 4 now, 3 its 2, and 4 one drop, but 3 is not SHORT.
+        E.due("-", x.why(3));
+        E.due("4<D", x.why(4));
+        x.spring(0, 11);
+        E.due(1, x.share(3, true));
+        E.due("3<2", x.why(3));
+        // A STORE shuts it as well.
+        Ditchright y = new Ditchright();
+        y.reach(-1, 5, 0, 0);
+        y.gate(0, 5, 40, 0);
+        y.gate(0, 1, 40, 0);
+        y.right(0, 4, 15);
+        y.pond(0, 1);
+        y.fish(0, 1);
+        y.wish(2, 0);
+        y.right(1, 2, 15);
+        E.due("3<1", y.why(3));
+    }
+
+    /** At a REST it is the youngest FISH whose SHARE is above it: not one that has just as much. */
+    private static void whyTheYoungestFish() {
+        Ditchright x = new Ditchright();
+        x.reach(-1, 9, 0, 0);
+        x.reach(-1, 9, 0, 0);
+        x.gate(0, 0, 40, 0);
+        x.fish(0, 5);
+        x.fish(0, 6);
+        x.fish(0, 5);
+        x.fish(1, 9);
+        x.right(0, 5, 15);
+        x.fish(0, 6);
+        // REST is 6 with 3 taken, and 5 with one more: just one FISH is above that; that of another REACH is not there.
+        E.due(3, x.share(4, true));
+        E.due("4<1", x.why(4));
+        x.wish(1, 5);
+        // Now 4 are taken, and with one more 4 are left: 2 is the youngest of three.
+        E.due(4, x.share(4, true));
+        E.due("4<2", x.why(4));
+        x.wish(2, 4);
+        E.due("4<1", x.why(4));
+        x.wish(1, 4);
+        E.due("4<0", x.why(4));
+        x.wish(0, 4);
+        E.due("-", x.why(4));
+        // The younger one never shuts it, and is SHORT itself.
+        E.due("5<D", x.why(5));
+    }
+
+    /** From the youngest on, with a blank between two; none on older ones, nor on FISH, nor on who has nothing. */
+    private static void callsFromTheYoungest() {
+        E.promise(35);
+        Ditchright x = new Ditchright();
+        x.reach(-1, 10, 0, 0);
+        for (int k = 0; k < 5; k++) {
+            x.gate(0, 9 - k, k == 3 ? 4 : 40, 0);
+        }
+        x.right(0, 10, 15);
+        x.right(1, 2, 15);
+        x.right(2, 2, 15);
+        x.pond(3, 4);
+        x.right(4, 1, 15);
+        x.fish(0, 5);
+        // 1 at MILE 5, 4 at 6, 2 at 7, 2 at 8: one is left at 9.
+        E.due(1, x.share(0, false));
+        E.due("4+ 3+ 2+ 1+", x.calls(0));
+        x.born(1, 7);
+        E.due("1+ 4+ 3+ 2+", x.calls(0));
+        x.born(0, 1);
+        E.due("1+", x.calls(0));
+        x.born(0, 7);
+        E.due("1+", x.calls(0));
+        x.born(0, 8);
+        E.due("", x.calls(0));
+        x.born(0, 0);
+        x.wish(2, 0);
+        E.due("1+ 4+ 3+", x.calls(0));
+        for (int right = 1; right < 6; right++) {
+            E.due("", x.calls(right));
+        }
     }
 
     private static void callsJustLess() {

@@ -10,6 +10,7 @@ public final class EdgesOfDaysTest {
         runTwentyIsTwentyTimesOne();
         runCountsAllButFish();
         yearNumbers();
+        yearOfEachReach();
         yearFull();
         yearFirstNamed();
         forgetEmptyAndFull();
@@ -90,6 +91,22 @@ public final class EdgesOfDaysTest {
         }
         for (int k = 0; k < 6; k++) {
             E.due(k == 5 ? 40 : 0, x.sure(k, 1));
+        }
+    }
+
+    /** Each of the six tenths is that of its own REACH alone. */
+    private static void yearOfEachReach() {
+        for (int k = 0; k < 6; k++) {
+            Ditchright x = new Ditchright();
+            for (int reach = 0; reach < 6; reach++) {
+                x.reach(-1, 20, 0, 0);
+                x.gate(reach, 0, 40, 0);
+                x.right(reach, 40, 15);
+            }
+            yearWith(x, k, 20);
+            for (int right = 0; right < 6; right++) {
+                E.due(right == k ? 40 : 0, x.sure(right, 1));
+            }
         }
     }
 

@@ -34,6 +34,7 @@ public final class EdgesOfDescriptionTest {
         harmedInEachYear();
         apartBelowOnceOrMore();
         whatThrowsIsNoStep();
+        upToTheLastCall();
         E.end();
     }
 
@@ -807,5 +808,25 @@ public final class EdgesOfDescriptionTest {
         E.due(3, x.house(6));
         E.due(2, x.undo());
         E.due(0, x.house(2));
+    }
+
+    /** The 512th call is answered as each other one. */
+    private static void upToTheLastCall() {
+        E.promise(54);
+        Ditchright x = Rivers.GATE.made();
+        Ditchright y = Rivers.GATE.made();
+        for (int k = 3; k <= 509; k++) {
+            x.run(20);
+            y.run(20);
+        }
+        E.due(507 * 20, x.house(3));
+        E.due(true, x.isSound());
+        y.house(3);
+        y.isSound();
+        E.due(y.digest(), x.digest());
+        Ditchright z = new Ditchright();
+        for (int k = 1; k <= 512; k++) {
+            E.due(k, z.knock());
+        }
     }
 }

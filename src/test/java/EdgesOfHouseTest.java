@@ -13,6 +13,7 @@ public final class EdgesOfHouseTest {
         letUpToTheAccount();
         letSixty();
         letExceptionsAhead();
+        letOfTheOtherOwner();
         letBehindUndo();
         carryNumbers();
         carryNothing();
@@ -104,6 +105,31 @@ public final class EdgesOfHouseTest {
         E.out(INDEX, WET, x -> x.let(2, 0, 60));
         E.out(INDEX, WET, x -> x.let(1, 2, 0));
         E.out(INDEX, WET, x -> x.let(-1, -1, 61));
+    }
+
+    /** Each ACCOUNT is its owner's: what one lets out or carries over is not the other one's. */
+    private static void letOfTheOtherOwner() {
+        Ditchright x = wet();
+        x.wish(1, 40);
+        x.wish(0, 0);
+        x.run(1);
+        // 33 and 45 of the owner 0; 15 had room, less 1, of the owner 1.
+        int[][] before = {{33, 0}, {45, 10}};
+        for (int pond = 0; pond < 2; pond++) {
+            for (int owner = 0; owner < 2; owner++) {
+                E.due(before[pond][owner], x.ofPond(pond, 4 + owner));
+            }
+        }
+        E.due(10, x.carry(1, 1, 0));
+        E.due(4, x.let(1, 0, 6));
+        E.due(6, x.ofPond(0, 7));
+        int[][] after = {{33, 4}, {45, 0}};
+        for (int pond = 0; pond < 2; pond++) {
+            for (int owner = 0; owner < 2; owner++) {
+                E.due(after[pond][owner], x.ofPond(pond, 4 + owner));
+            }
+            E.due(0, x.ofPond(pond, 6));
+        }
     }
 
     private static void letBehindUndo() {

@@ -130,6 +130,17 @@ public final class EdgesOfTextsTest {
         String[] out = {"g 1 0 1 0;", "g 0 10 1 0;", "g 0 0 0 0;", "g 0 0 41 0;", "g 0 0 1 11;", "g 0 5 1 0;", "g 99 0 1 0;",
             "g 0 99 1 0;", "g 0 0 99 0;", "g 0 0 1 99;"};
         dueDone(Rivers.GATE, in, out);
+        Ditchright y = with(Rivers.SOME, "g 2 0 3 4;r 1 5 6;f 1 7;").made();
+        E.due(3, y.read());
+        int[] gate = {2, 0, 3, 4};
+        for (int what = 0; what <= 3; what++) {
+            E.due(gate[what], y.ofGate(4, what));
+        }
+        E.due(1, y.ofRight(5, 1));
+        E.due(5, y.ofRight(5, 3));
+        E.due(6, y.ofRight(5, 4));
+        E.due(1, y.ofRight(6, 1));
+        E.due(7, y.ofRight(6, 3));
         Ditchright x = with(Rivers.GATE, "g 0 9 40 10;").made();
         x.read();
         E.due(9, x.ofGate(1, 1));
@@ -318,6 +329,10 @@ public final class EdgesOfTextsTest {
             }
             E.in(1, with(Rivers.EMPTY, letters[k] + "7 7 7 7;"), Ditchright::fault);
             E.in(1, with(Rivers.EMPTY, letters[k] + ";"), Ditchright::fault);
+            // The same behind another STATEMENT, of which nothing is left over.
+            E.in(7, with(Rivers.EMPTY, "f 0 1;" + letters[k] + "7 7 7 7;"), Ditchright::fault);
+            E.in(7, with(Rivers.EMPTY, "f 0 1;" + letters[k] + ";"), Ditchright::fault);
+            E.in(7, with(Rivers.EMPTY, "f 0 1;" + letters[k]), Ditchright::fault);
             E.in(1, with(Rivers.EMPTY, letters[k] + letters[k] + " 7 7 7 7;"), Ditchright::fault);
         }
     }

@@ -262,7 +262,8 @@ public final class HouseTest {
         C.due(1, x.house(8));
     }
 
-    private static void undoIsWhole() {
+    /** The first steps of eight different ones, behind which a SLIP with a FAULT is read and the water court is knocked at. */
+    private static Ditchright stepped(int steps) {
         Ditchright x = ponds();
         x.member(2, 3);
         x.member(3, 1);
@@ -273,9 +274,7 @@ public final class HouseTest {
         x.pump(0, 3);
         x.type(12);
         x.run(3);
-        String[] told = new String[8];
-        for (int k = 0; k < 8; k++) {
-            told[k] = Checks.tellAll(x);
+        for (int k = 0; k < steps; k++) {
             switch (k) {
                 case 0: x.run(13); break;
                 case 1: x.let(0, 0, 2); break;
@@ -290,14 +289,24 @@ public final class HouseTest {
         x.type(10);
         C.due(-7, x.read());
         x.knock();
-        for (int k = 7; k >= 0; k--) {
-            C.due(false, told[k].equals(Checks.tellAll(x)));
-            C.due(k, x.undo());
-            C.due(told[k], Checks.tellAll(x));
+        return x;
+    }
+
+    private static void undoIsWhole() {
+        String later = Checks.tellAll(stepped(8));
+        for (int kept = 7; kept >= 0; kept--) {
+            Ditchright x = stepped(8);
+            for (int k = 7; k >= kept; k--) {
+                C.due(k, x.undo());
+            }
+            String told = Checks.tellAll(x);
+            C.due(Checks.tellAll(stepped(kept)), told);
+            C.due(false, later.equals(told));
+            later = told;
+            C.due("g ", x.slip());
+            C.due(1, x.house(7));
+            C.due(1, x.house(8));
         }
-        C.due("g ", x.slip());
-        C.due(1, x.house(7));
-        C.due(1, x.house(8));
     }
 
     /** Each call of the first four groups, also one that changes nothing, is one STEP. */
