@@ -1721,7 +1721,7 @@ public final class Ditchright {
         private int findShutter(int right) {
             setOneMore(right);
             int spot = flow.walk(springs, otherShares);
-            boolean isGate = spot < MOST_GATES;
+            boolean isGate = spot >= 0 && spot < plan.gateCount;
             // Only the RIGHT's own GATE can be above its BOUND, for all others flow as before.
             if (isGate && flow.taken[spot] > plan.bound[spot]) {
                 return BY_BOUND;
